@@ -91,6 +91,10 @@ public final class BoundaryTest {
     }
 
     private record Run(int asked, List<Call> calls) {
+        int nodes() {
+            return asked >= 1 && asked <= 6 ? asked : 3;
+        }
+
         /** A new object after the first so many calls of the run. */
         SplicedChain after(int count) {
             SplicedChain x = new SplicedChain(asked);
@@ -101,15 +105,21 @@ public final class BoundaryTest {
         }
     }
 
-    /** Later calls on an object, written down with what they answered. */
+    /**
+     * Later calls on an object, written down with what they answered. They look
+     * first and are refused as late as can be: a refused call that does change
+     * something would hide here what it changed before.
+     */
     private static final class Aftermath {
         private final SplicedChain x;
+        private final int nodes;
         private final StringBuilder seen = new StringBuilder();
         private int callsLeft;
         private String lastAnswer = "";
 
-        Aftermath(SplicedChain x, int callsLeft) {
+        Aftermath(SplicedChain x, int nodes, int callsLeft) {
             this.x = x;
+            this.nodes = nodes;
             this.callsLeft = callsLeft;
         }
 
@@ -126,7 +136,7 @@ public final class BoundaryTest {
         }
 
         void onAll(String name) {
-            for (int node = 0; node < 6; node++) {
+            for (int node = 0; node < nodes; node++) {
                 call(name, node);
             }
         }
@@ -148,20 +158,22 @@ public final class BoundaryTest {
                 call("replied", number);
             }
             for (int key = 0; key < 8; key++) {
-                call("read", key);
-                for (int node = 0; node < 6; node++) {
+                for (int node = 0; node < nodes; node++) {
                     call("valueAt", node, key);
                 }
+            }
+            for (int key = 0; key < 8; key++) {
+                call("read", key);
             }
         }
 
         void drain() {
-            for (int node = 0; node < 6; node++) {
+            for (int node = 0; node < nodes; node++) {
                 for (int i = 0; i < 41 && call("deliver", node); i++) {
                     call("waiting", node);
                 }
             }
-            for (int node = 5; node >= 0; node--) {
+            for (int node = nodes - 1; node >= 0; node--) {
                 for (int i = 0; i < 41 && call("acknowledge", node); i++) {
                     call("sent", node);
                 }
@@ -274,7 +286,7 @@ public final class BoundaryTest {
     }
 
     private static String aftermath(Run run, int calls, int callsLeft, int kind) {
-        Aftermath aftermath = new Aftermath(run.after(calls), callsLeft);
+        Aftermath aftermath = new Aftermath(run.after(calls), run.nodes(), callsLeft);
         aftermath.tell(kind);
         return aftermath.seen.toString();
     }
