@@ -1,33 +1,23 @@
+import java.io.IOException;
 import java.lang.reflect.Constructor;
 import java.lang.reflect.Field;
 import java.lang.reflect.Method;
 import java.lang.reflect.Modifier;
+import java.nio.file.Files;
+import java.nio.file.Path;
 import java.util.Arrays;
 import java.util.Set;
 import java.util.TreeSet;
+import java.util.regex.Matcher;
+import java.util.regex.Pattern;
 
 /** The class has the document's face and shows nothing else. */
 public final class FaceTest {
-    private static final String A = "IllegalArgumentException";
-    private static final String S = "IllegalStateException";
-    private static final String N = "NoSuchElementException";
-
-    private static final Set<String> FACE = Set.of(
-            "int write(int, int) " + A + " " + S,
-            "int read(int) " + A + " " + S,
-            "int deliver(int) " + A + " " + S + " " + N,
-            "int acknowledge(int) " + A + " " + S + " " + N,
-            "boolean fail(int) " + A,
-            "int repair() ",
-            "int resync(int) " + A + " " + S,
-            "boolean replied(int) ",
-            "int head() ",
-            "int tail() ",
-            "int valueAt(int, int) " + A,
-            "int history(int) " + A,
-            "int sent(int) " + A,
-            "int waiting(int) " + A,
-            "double lag() ");
+    private static final Path DOCUMENT = Path.of("../shared/DOC.md");
+    private static final Pattern FACE =
+            Pattern.compile("## The public face\\s+```java\n(.*?)```", Pattern.DOTALL);
+    private static final Pattern MEMBER =
+            Pattern.compile(" *public (?:(\\w+) )?(\\w+)\\(([^)]*)\\)(?: throws ([^;]+))?;");
 
     private static int wrong = 0;
 
@@ -36,6 +26,27 @@ public final class FaceTest {
             wrong++;
             System.out.println(what + ": is " + got + ", due is " + want);
         }
+    }
+
+    /** The document's rows, as told() writes a method; a constructor has no type. */
+    private static Set<String> faceOfDocument() throws IOException {
+        Matcher face = FACE.matcher(Files.readString(DOCUMENT));
+        Set<String> rows = new TreeSet<>();
+        if (!face.find()) {
+            return rows;
+        }
+        for (String line : face.group(1).split("\n")) {
+            Matcher member = MEMBER.matcher(line);
+            if (member.matches()) {
+                String type = member.group(1) == null ? "" : member.group(1) + " ";
+                String parameters = member.group(3).replaceAll("(\\w+) \\w+", "$1");
+                String thrown = member.group(4) == null ? "" : member.group(4).replace(",", "");
+                rows.add(type + member.group(2) + "(" + parameters + ") " + thrown);
+            } else {
+                due("the line " + line, Set.of("public final class SplicedChain {", "}").contains(line), true);
+            }
+        }
+        return rows;
     }
 
     private static String names(Class<?>[] classes, String between) {
@@ -49,28 +60,35 @@ public final class FaceTest {
                 + names(method.getExceptionTypes(), " ");
     }
 
-    public static void main(String[] args) {
+    private static String told(Constructor<?> constructor) {
+        return constructor.getName() + "(" + names(constructor.getParameterTypes(), ", ") + ") "
+                + names(constructor.getExceptionTypes(), " ");
+    }
+
+    public static void main(String[] args) throws IOException {
         Class<?> face = SplicedChain.class;
         due("class", Modifier.toString(face.getModifiers()), "public final");
-        Set<String> methods = new TreeSet<>();
+        Set<String> members = new TreeSet<>();
         Set<String> publicNames = new TreeSet<>();
         for (Method method : face.getDeclaredMethods()) {
             if (!Modifier.isPrivate(method.getModifiers())) {
                 due(method.getName(), Modifier.toString(method.getModifiers()), "public");
-                methods.add(told(method));
+                members.add(told(method));
                 publicNames.add(method.getName());
             }
         }
-        due("methods", methods, new TreeSet<>(FACE));
+        for (Constructor<?> constructor : face.getDeclaredConstructors()) {
+            due("constructor", Modifier.toString(constructor.getModifiers()), "public");
+            members.add(told(constructor));
+        }
+        due("members", members, faceOfDocument());
+        due("how many members", members.size(), 16);
         for (Method method : face.getDeclaredMethods()) {
             if (Modifier.isPrivate(method.getModifiers())) {
                 due("private " + method.getName() + " bears a public name",
                         publicNames.contains(method.getName()), false);
             }
         }
-        Constructor<?>[] constructors = face.getDeclaredConstructors();
-        due("constructors", constructors.length, 1);
-        due("constructor", constructors[0].toString(), "public SplicedChain(int)");
         for (Field field : face.getDeclaredFields()) {
             due("field " + field.getName() + " is private", Modifier.isPrivate(field.getModifiers()), true);
             due("field " + field.getName() + " is no changing static",

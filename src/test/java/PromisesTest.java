@@ -43,20 +43,14 @@ public final class PromisesTest {
         }
     }
 
+    // Few looks, because an object is used for at most 512 calls.
     private static String picture(SplicedChain x) {
         StringBuilder s = new StringBuilder();
         s.append(x.head()).append(' ').append(x.tail()).append(' ').append(x.lag());
         int nodes = nodesOf(x);
         for (int node = 0; node < nodes; node++) {
-            s.append(" | ").append(x.history(node)).append(' ').append(x.sent(node));
-            s.append(' ').append(x.waiting(node)).append(':');
-            for (int key = 0; key < 8; key++) {
-                s.append(' ').append(x.valueAt(node, key));
-            }
-        }
-        s.append(" r");
-        for (int number = -1; number <= 41; number++) {
-            s.append(x.replied(number) ? '1' : '0');
+            s.append(" | ").append(x.sent(node)).append(' ').append(x.waiting(node));
+            s.append(' ').append(x.valueAt(node, 0));
         }
         return s.toString();
     }

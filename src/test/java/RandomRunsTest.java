@@ -7,13 +7,14 @@ import java.util.NoSuchElementException;
 import java.util.Random;
 
 /**
- * Long runs of calls, drawn with fixed seeds, against a second chain that
+ * Runs of 512 calls, drawn with fixed seeds, against a second chain that
  * follows the document word for word: its updates carry key and value, every
  * node keeps its own log, and links stand between pairs of nodes.
  */
 public final class RandomRunsTest {
-    private static final int RUNS = 6000;
+    private static final int RUNS = 20000;
     private static final int CALLS = 512;
+    private static final int LOOK_ONCE_IN = 60;
 
     private record Update(int number, int key, int value) {
     }
@@ -349,7 +350,7 @@ public final class RandomRunsTest {
         return random.nextInt();
     }
 
-    /** All that the object shows, so that a wrong change is seen at once. */
+    /** All that the object shows, so that a wrong change is seen though no drawn call asks for it. */
     private static String firstDifference(SplicedChain x, PlainChain m, int nodes) {
         for (int node = 0; node < nodes; node++) {
             for (String call : new String[] {"history", "sent", "waiting"}) {
@@ -378,16 +379,25 @@ public final class RandomRunsTest {
         SplicedChain x = new SplicedChain(asked);
         PlainChain m = new PlainChain(asked);
         int nodes = m.all.size();
+        int callsOfLook = 11 * nodes + 5;
         int[] weights = Rows.WEIGHTS[run % Rows.WEIGHTS.length];
         StringBuilder told = new StringBuilder("new SplicedChain(" + asked + ")\n");
-        for (int i = 0; i < CALLS; i++) {
+        int left = CALLS;
+        while (left > callsOfLook) {
             String call = draw(random, weights);
             int p = firstArgument(random, call, nodes);
             int q = secondArgument(random, call);
             Object want = dueOf(m, call, p, q);
             Object got = answerOf(x, call, p, q);
+            left--;
             told.append(call + "(" + p + ", " + q + ") -> " + got + "\n");
-            String difference = firstDifference(x, m, nodes);
+            String difference = null;
+            // The last calls of every run are a look; before that it comes by chance.
+            if (left == callsOfLook || left > 2 * callsOfLook && random.nextInt(LOOK_ONCE_IN) == 0) {
+                difference = firstDifference(x, m, nodes);
+                left -= callsOfLook;
+                told.append("a look at all\n");
+            }
             if (!want.equals(got) || difference != null) {
                 System.out.print(told);
                 System.out.println("run " + run + ": due is " + want + "; shows otherwise: " + difference);
